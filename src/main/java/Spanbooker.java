@@ -73,14 +73,14 @@ public final class Spanbooker {
     public int copy(int cell, int into) throws IndexOutOfBoundsException {
         needCell(cell);
         needCell(into);
-        return done(come(cells[cell], into));
+        return done(bring(cells[cell], into));
     }
 
     public int swap(int cell, int other) throws IndexOutOfBoundsException {
         needCell(cell);
         needCell(other);
         long moment = cells[other];
-        int isOther = come(cells[cell], other);
+        int isOther = bring(cells[cell], other);
         cells[cell] = moment;
         return done(isOther);
     }
@@ -147,7 +147,7 @@ public final class Spanbooker {
         needNumberIn(spanRow, k);
         needUnits(unit, n, -MOST_UNITS);
         long on = lengthOf(unit, n);
-        if (!becomes(k, spanRow.begin(k) + on, spanRow.end(k) + on)) {
+        if (!changeSpan(k, spanRow.begin(k) + on, spanRow.end(k) + on)) {
             return refuse();
         }
         return done(spanRow.beginsBefore(spanRow.begin(k)));
@@ -156,7 +156,7 @@ public final class Spanbooker {
     public int stretch(int k, int unit, int n) throws IndexOutOfBoundsException, IllegalArgumentException {
         needNumberIn(spanRow, k);
         needUnits(unit, n, -MOST_UNITS);
-        if (!becomes(k, spanRow.begin(k), spanRow.end(k) + lengthOf(unit, n))) {
+        if (!changeSpan(k, spanRow.begin(k), spanRow.end(k) + lengthOf(unit, n))) {
             return refuse();
         }
         return done(spanRow.endsBefore(spanRow.end(k)));
@@ -171,7 +171,7 @@ public final class Spanbooker {
         if (moment + length > until) {
             return refuse();
         }
-        return done(come(moment, into));
+        return done(bring(moment, into));
     }
 
     // ---- acts: wishes
@@ -494,7 +494,7 @@ public final class Spanbooker {
         return moment < other ? -1 : 1;
     }
 
-    private int come(long moment, int into) {
+    private int bring(long moment, int into) {
         int isOther = cells[into] == moment ? 0 : 1;
         cells[into] = moment;
         return isOther;
@@ -525,7 +525,7 @@ public final class Spanbooker {
         return spanRow.add(begin, end, isOver);
     }
 
-    private boolean becomes(int k, long begin, long end) {
+    private boolean changeSpan(int k, long begin, long end) {
         if (begin >= end || !isInCalendar(begin, end) || spanRow.firstMeeting(begin, end, k) != NONE) {
             return false;
         }

@@ -561,6 +561,14 @@ public final class CalendarTest {
         dueFreeAt(x, 70, 0, Checks.NONE);
         Checks.dueThrown(x, "ofFree of none", Checks.INDEX, () -> x.ofFree(0, 0));
 
+        Spanbooker fresh = calendar(100, 0, 30);
+        Checks.due("ofFree, asked first of all", 30, () -> fresh.ofFree(0, 0));
+        fresh.unbook(0);
+        Checks.due("ofFree, asked first behind an act", 0, () -> fresh.ofFree(0, 0));
+        book(fresh, 0, 40, false);
+        Checks.due("freeAt, asked first behind an act", Checks.NONE, () -> fresh.freeAt(2));
+        Checks.due("freeAt", 0, () -> fresh.freeAt(3));
+
         Spanbooker y = calendar(100, 81, 82, 71, 72, 61, 62, 51, 52, 41, 42, 31, 32, 21, 22, 11, 12, 91, 92, 1, 2);
         Checks.due("frees()", 11, y::frees);
         Checks.same("the first", "0 0 to 1 0", Reading.free(y, 0));

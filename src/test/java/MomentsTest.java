@@ -241,6 +241,10 @@ public final class MomentsTest {
         Checks.dueAct(y, "shift", 10, () -> y.shift(0, -999999995));
         Checks.same("wish", "-1000000000 0 to -999999995 0", Reading.wish(y, 0));
 
+        Spanbooker w = at(100, 100, 100, 100);
+        Checks.dueAct(w, "shift", 6, () -> w.shift(0, -1000000000));
+        Checks.dueRefused(w, "shift of FROM alone", () -> w.shift(2, -1));
+
         Spanbooker z = at(0, 10, 1000000000, 0);
         z.open(0, 2);
         z.book(0, 1, false);
