@@ -5,8 +5,13 @@ final class Checks {
     static final int REFUSED = -9;
     static final int NONE = -1;
 
+    /** In digest() the acts, the refusals, the knocks and isSound() come last: what one more of these adds to it. */
+    private static final long ONE_MORE_ACT = 31L * 31L * 31L;
+    private static final long ONE_MORE_REFUSAL = 31L * 31L;
+
     private static int passed = 0;
     private static int failed = 0;
+    private static String where = "";
 
     interface Call {
         Object answer();
@@ -34,9 +39,18 @@ final class Checks {
         } else {
             failed++;
             if (failed <= 20) {
-                System.out.println(what + " answered " + got + ", due is " + want);
+                System.out.println(where + what + " answered " + got + ", due is " + want);
             }
         }
+    }
+
+    /** What is looked at from here on is told with this ahead of it. */
+    static void under(String heading) {
+        where = heading;
+    }
+
+    static int count() {
+        return passed + failed;
     }
 
     /** The call throws that, and nothing in the object is other by it. */
@@ -48,11 +62,11 @@ final class Checks {
 
     /** The call is REFUSED, is counted as that and not as an act, and leaves all else as it was. */
     static void dueRefused(Spanbooker x, String what, Call call) {
-        String before = Reading.withoutHouse(x);
+        long before = x.digest();
         int acts = x.house(0);
         int refusals = x.house(1);
         due(what, REFUSED, call);
-        same("the rest after " + what, before, Reading.withoutHouse(x));
+        same("digest() after " + what, before + ONE_MORE_REFUSAL, x.digest());
         same("house(0) after " + what, acts, x.house(0));
         same("house(1) after " + what, refusals + 1, x.house(1));
     }
@@ -64,6 +78,20 @@ final class Checks {
         due(what, want, call);
         same("house(0) after " + what, acts + 1, x.house(0));
         same("house(1) after " + what, refusals, x.house(1));
+    }
+
+    /** The call is one act that answers that, and nothing is other by it but that it is counted. */
+    static void dueIdle(Spanbooker x, String what, Object want, Call call) {
+        long before = x.digest();
+        dueAct(x, what, want, call);
+        same("digest() after " + what, before + ONE_MORE_ACT, x.digest());
+    }
+
+    /** The call answers that, and nothing at all is other by it. */
+    static void dueAsked(Spanbooker x, String what, Object want, Call call) {
+        long before = x.digest();
+        due(what, want, call);
+        same("digest() after " + what, before, x.digest());
     }
 
     static void end(String test) {
