@@ -87,10 +87,11 @@ final class Checks {
         same("digest() after " + what, before + ONE_MORE_ACT, x.digest());
     }
 
-    /** The call answers that, and nothing at all is other by it. */
+    /** The call answers that, also when nothing else was asked ahead of it, and nothing at all is other by it. */
     static void dueAsked(Spanbooker x, String what, Object want, Call call) {
-        long before = x.digest();
         due(what, want, call);
+        long before = x.digest();
+        due(what + " again", want, call);
         same("digest() after " + what, before, x.digest());
     }
 
