@@ -331,6 +331,7 @@ public final class Spanbooker {
         if (what < 2) {
             return partOf(takenLength(), what);
         }
+        findFrees();
         return partOf(what < 4 ? freeLength() : until - from, what);
     }
 
@@ -379,11 +380,7 @@ public final class Spanbooker {
 
     public int rooms() {
         findRooms();
-        int count = 0;
-        for (int k = 0; k < wishRow.count(); k++) {
-            count = Math.max(count, roomOf[k] + 1);
-        }
-        return count;
+        return roomCount();
     }
 
     // ---- the whole
@@ -546,10 +543,6 @@ public final class Spanbooker {
         return here;
     }
 
-    private long firstNotTaken(long first) {
-        return firstWithoutSpan(first, A_BILLIONTH);
-    }
-
     private long firstTaken(long first) {
         return spanRow.firstWith(first) == NONE ? spanRow.nextBegin(first, until) : first;
     }
@@ -559,7 +552,7 @@ public final class Spanbooker {
         long here = from;
         // Every round but the first one passes a SPAN.
         for (int n = 0; n <= spanRow.count() && here < until; n++) {
-            long begin = firstNotTaken(here);
+            long begin = firstWithoutSpan(here, A_BILLIONTH);
             here = firstTaken(begin);
             if (begin < here) {
                 freeRow.add(begin, here, false);
@@ -567,8 +560,8 @@ public final class Spanbooker {
         }
     }
 
+    /** Of what findFrees() left: found in here, they would make the calls of digest() go one deeper. */
     private long freeLength() {
-        findFrees();
         long length = 0L;
         for (int k = 0; k < freeRow.count(); k++) {
             length += freeRow.end(k) - freeRow.begin(k);
@@ -582,7 +575,7 @@ public final class Spanbooker {
         long here = from;
         for (int n = 0; n <= spanRow.count() && here < until; n++) {
             long begin = firstTaken(here);
-            here = firstNotTaken(begin);
+            here = firstWithoutSpan(begin, A_BILLIONTH);
             length += here - begin;
         }
         return length;
@@ -672,6 +665,15 @@ public final class Spanbooker {
         return room;
     }
 
+    /** Of what findRooms() left. */
+    private int roomCount() {
+        int count = 0;
+        for (int k = 0; k < wishRow.count(); k++) {
+            count = Math.max(count, roomOf[k] + 1);
+        }
+        return count;
+    }
+
     // ---- the whole
 
     private boolean isSoundInSpans() {
@@ -699,8 +701,9 @@ public final class Spanbooker {
     }
 
     private boolean isSoundInWishes() {
+        findRooms();
         int set = chosen();
-        return isWithoutMeeting(set) && Integer.bitCount(set) == mostOfAllSets() && rooms() == crowd();
+        return isWithoutMeeting(set) && Integer.bitCount(set) == mostOfAllSets() && roomCount() == crowd();
     }
 
     private static long mix(long d, int v) {

@@ -116,7 +116,6 @@ public final class FaceTest {
                 Checks.same("private " + method, true, isHidden(method));
                 Checks.same("a face's name on " + method, false, names.contains(method.getName()));
             }
-            Checks.same("parameters of " + method, true, method.getParameterCount() <= 7);
         }
         for (Field field : Spanbooker.class.getDeclaredFields()) {
             Checks.same("private " + field, true, isHidden(field));
@@ -125,8 +124,23 @@ public final class FaceTest {
         }
     }
 
+    private static void dueFewOfEach(Class<?> owner) {
+        int fields = 0;
+        for (Field field : owner.getDeclaredFields()) {
+            fields += Modifier.isStatic(field.getModifiers()) ? 0 : 1;
+        }
+        Checks.same("fields of " + owner, true, fields <= 20);
+        for (Method method : owner.getDeclaredMethods()) {
+            Checks.same("parameters of " + method, true, method.getParameterCount() <= 7);
+        }
+    }
+
     private static void dueClassesInside() {
-        for (Class<?> inside : Spanbooker.class.getDeclaredClasses()) {
+        Class<?>[] all = Spanbooker.class.getDeclaredClasses();
+        Checks.same("how many classes: " + all.length + ", at most 11 in the one", true, all.length <= 11);
+        dueFewOfEach(Spanbooker.class);
+        for (Class<?> inside : all) {
+            dueFewOfEach(inside);
             int modifiers = inside.getModifiers();
             Checks.same("static " + inside, true, Modifier.isStatic(modifiers));
             Checks.same("shown " + inside, false, Modifier.isPublic(modifiers) || Modifier.isProtected(modifiers));
